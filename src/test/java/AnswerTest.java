@@ -8,6 +8,7 @@ final class AnswerTest {
         hints();
         needs();
         refusals();
+        farthest();
     }
 
     /** Letters a, b, c; (a or b), (not a or c). */
@@ -95,5 +96,18 @@ final class AnswerTest {
         Check.due("all rows of ten letters", x.answers(1, 0, 0), 1024);
         Check.due("the last one", x.answer(1, 1023), 1023);
         Check.due("beyond", x.solves(1, 1024), -2);
+    }
+
+    /** Ten letters, all of which have to be true. */
+    private static void farthest() {
+        HiddenWorks x = new HiddenWorks();
+        int[] allTrue = new int[20];
+        for (int l = 0; l < 10; l++) {
+            allTrue[2 * l] = 1 << l;
+        }
+        Check.wild(x, 0, 10, allTrue);
+        Check.due("unlike in all letters", x.nearest(0, 0), 1023);
+        Check.due("unlike in nine", x.nearest(0, 1), 1023);
+        Check.due("all are needed", x.needed(0), 1023);
     }
 }

@@ -81,6 +81,7 @@ final class LeanTest {
         balance("k0 n6 c3 w3 0 90 60 50", 240);
         balance("k0 n6 c3 w3 0 99 90 99", 200);
         balance("k0 n6 c3 w3 0 90 5 99", 385);
+        balance("k0 n6 c3 w3 0 50 1 99", 349);
         balance("k0 n6 c3 w3 0 50 0 99", 199);
         balance("k0 n6 c3 w3 0 99 0 0", 299);
         balance("k0 n6 c3 w3 0 0 9 0", 109);
