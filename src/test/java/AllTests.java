@@ -13,10 +13,26 @@ public final class AllTests {
         FinderTest.run();
         ClaimTest.run();
         HostTest.run();
+        edges();
         RandomRunsTest.run();
         System.out.println(Check.passed + " passed, " + Check.failed + " failed");
         if (Check.failed != 0) {
             System.exit(1);
         }
+    }
+
+    /** For each sentence of the document that names an edge, a test of its own. */
+    private static void edges() throws Exception {
+        Doc.read();
+        TaskEdges.run();
+        RecipeEdges.run();
+        MadeEdges.run();
+        AnswerEdges.run();
+        LeanEdges.run();
+        FinderEdges.run();
+        ClaimEdges.run();
+        HostEdges.run();
+        RefusalEdges.run();
+        Doc.allIsCited();
     }
 }

@@ -1,8 +1,14 @@
 /** Counts answers that are as due, prints those that aren't, and feeds an object by texts and rows. */
 final class Check {
     static int passed = 0, failed = 0;
+    private static String place = "", printed = "";
 
     private Check() {
+    }
+
+    /** What is checked from now on belongs to; it is printed once, ahead of what isn't as due. */
+    static void under(String words) {
+        place = words;
     }
 
     static void due(String call, long got, long want) {
@@ -10,6 +16,10 @@ final class Check {
             passed++;
         } else {
             failed++;
+            if (!place.equals(printed)) {
+                System.out.println("-- " + place);
+                printed = place;
+            }
             System.out.println(call + " answered " + got + ", due is " + want);
         }
     }
