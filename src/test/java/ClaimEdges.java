@@ -398,15 +398,15 @@ final class ClaimEdges {
         for (int k = 0; k < 20; k++) {
             Check.due("a claim", x.claim(tasks[k], k + 1), k);
         }
-        x.tries(3, 3);
-        x.tries(4, 0);
+        for (int k = 2; k < 20; k++) {
+            x.tries(k, k < 4 ? 3 : 0);
+        }
         x.back();
-        int[] states = {0, 2, 2}, finders = {-1, 3, 0};
         for (int k = 0; k < 20; k++) {
             if (tasks[k] == 0) {
                 Check.due("its task", x.claimTold(kept, 0), 0);
                 Check.due("its steps", x.claimTold(kept, 1), k + 1);
-                state(x, kept, kept < 3 ? states[kept] : 0, kept < 3 ? finders[kept] : -1);
+                state(x, kept, k < 2 ? 0 : 2, k < 2 ? -1 : k < 4 ? 3 : 0);
                 kept++;
             }
         }

@@ -2,6 +2,7 @@ import java.lang.reflect.Constructor;
 import java.lang.reflect.Field;
 import java.lang.reflect.Method;
 import java.lang.reflect.Modifier;
+import java.util.HashSet;
 import java.util.Set;
 import java.util.TreeSet;
 
@@ -45,6 +46,7 @@ final class FaceTest {
                 hidden.add(m.getName());
             }
         }
+        sizes();
         hidden.retainAll(names);
         Check.due("inner names that are public ones " + hidden, hidden.isEmpty());
         fields();
@@ -53,6 +55,23 @@ final class FaceTest {
         Check.due("constructors", made.length, 1);
         Check.due("its arguments", made[0].getParameterCount(), 0);
         Check.due("it is public", Modifier.isPublic(made[0].getModifiers()));
+    }
+
+    /** How much there may be of each (LANGUAGE.md, rule 11). */
+    private static void sizes() {
+        Set<Class<?>> classes = new HashSet<>(Set.of(HiddenWorks.class.getDeclaredClasses()));
+        classes.add(HiddenWorks.class);
+        Check.due("classes", classes.size() <= 12);
+        for (Class<?> one : classes) {
+            int fields = 0;
+            for (Field f : one.getDeclaredFields()) {
+                fields += Modifier.isStatic(f.getModifiers()) ? 0 : 1;
+            }
+            Check.due("fields of " + one, fields <= 20);
+            for (Method m : one.getDeclaredMethods()) {
+                Check.due("parameters of " + m, m.getParameterCount() <= 7);
+            }
+        }
     }
 
     private static void fields() {

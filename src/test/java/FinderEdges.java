@@ -25,6 +25,7 @@ final class FinderEdges {
         signs();
         bounds();
         boundsOfLikeOnes();
+        boundsOfMany();
         apartTells();
         apartRefused();
     }
@@ -192,6 +193,13 @@ final class FinderEdges {
             }
         }
         Check.due("both were hidden", seen[0] && seen[1]);
+        HiddenWorks most = recipes("k0 n2 c24 w1 0 1");
+        for (int seed = 0; seed < 8; seed++) {
+            most.make(0, seed);
+            for (int finder = 0; finder < 4; finder++) {
+                Check.due("of 24 clauses, too", most.find(seed, finder, 2000, 2), 1);
+            }
+        }
         HiddenWorks x = new HiddenWorks();
         Check.wild(x, 0, 1);
         Check.wild(x, 0, 1, 1, 0, 0, 1);
@@ -353,6 +361,42 @@ final class FinderEdges {
             Check.due("above 0", x.apart(0, 2, seed, 1, 0), 0);
         }
         Check.due("both signs came", seen[2] && seen[4]);
+    }
+
+    /** The square sums of a heap, made and brought back one by one. */
+    private static int[] signsOf(HiddenWorks x, int recipe, int seed, int n) {
+        int[] signs = new int[n];
+        for (int i = 0; i < n; i++) {
+            x.make(recipe, seed + i);
+            signs[i] = x.lean(0, 0) * x.lean(0, 0) + x.lean(0, 1) * x.lean(0, 1);
+            x.back();
+        }
+        return signs;
+    }
+
+    private static void boundsOfMany() {
+        Doc.term("of BOUNDS -1 and all SIGNS the one by which most are right; of like ones the least.");
+        HiddenWorks all = recipes("k0 n1 c24 w1 0 1", "k0 n2 c2 w1 0 1");
+        for (int seed = 0; seed < 20; seed++) {
+            Check.due("a sign of 4 comes sooner or later", all.apart(0, 1, seed, 24, 0), 4);
+            Check.due("by it all are right", all.apart(0, 1, seed, 24, 1), 48);
+        }
+        for (int seed = 0; seed < 60; seed++) {
+            HiddenWorks x = recipes("k0 n2 c9 w1 0 1", "k0 n2 c8 w1 0 1");
+            x.image();
+            int n = 1 + seed % 24, bound = -1, most = -1;
+            int[] first = signsOf(x, 0, seed, n), second = signsOf(x, 1, seed, n);
+            for (int by = -1; by <= 81; by++) {
+                int right = 0;
+                for (int i = 0; i < n; i++) {
+                    right += (first[i] > by ? 1 : 0) + (second[i] <= by ? 1 : 0);
+                }
+                bound = right > most ? by : bound;
+                most = Math.max(most, right);
+            }
+            Check.due("bound of " + n + " from " + seed, x.apart(0, 1, seed, n, 0), bound);
+            Check.due("right of " + n + " from " + seed, x.apart(0, 1, seed, n, 1), most);
+        }
     }
 
     private static void apartTells() {

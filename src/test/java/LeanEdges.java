@@ -63,6 +63,15 @@ final class LeanEdges {
             Check.due("a twin's is turned with it", toward.lean(1, 0), 24);
         }
         Check.due("one was false, one true", seen[0] && seen[1]);
+        for (int seed = 0; seed < 6; seed++) {
+            HiddenWorks toward = recipe("k0 n3 c24 w3 0 0 0 1"), away = recipe("k4 n2 c24 w2 1 0 0");
+            toward.make(0, seed);
+            away.make(0, seed);
+            for (int l = 0; l < 3; l++) {
+                Check.due("each letter toward it", toward.lean(0, l), 24);
+                Check.due("each letter away from it", away.lean(0, l), l < 2 ? -24 : -1000);
+            }
+        }
         HiddenWorks x = new HiddenWorks();
         Check.wild(x, 0, 1, 0, 1);
         Check.due("nothing hidden: as it stands", x.lean(0, 0), -1);
