@@ -7,6 +7,7 @@ public final class AllTests {
         endInTenMinutes();
         FaceTest.run();
         LanguageTest.run();
+        ReadmeTest.run();
         RecipeTest.run();
         TaskTest.run();
         AnswerTest.run();
